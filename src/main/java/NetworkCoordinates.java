@@ -479,7 +479,7 @@ public final class NetworkCoordinates {
             long sampleError = Math.min(GREATEST_ERROR, quotient(1000L * Math.abs(d - s), s));
             long ve = errorGain * weight(a, b) / 1000;
             long after = (sampleError * ve + errors[a] * (1000 - ve)) / 1000;
-            return limited(after, 1, GREATEST_ERROR);
+            return (int) Math.max(1, after);
         }
 
         private int stepOf(int a, int b, int d) {
