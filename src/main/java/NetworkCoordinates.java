@@ -338,6 +338,11 @@ public final class NetworkCoordinates {
         return divisor < 1 ? 0 : dividend / divisor;
     }
 
+    /** Nodes predicted to be at one place show no direction: then all of the step goes along x. */
+    private static long share(int step, int part, int d) {
+        return d == 0 ? 0 : quotient((long) step * part, d);
+    }
+
     /** Rounded down; bit 18 is enough, as two nodes are never farther apart than 282842. */
     private static int squareRoot(long square) {
         long root = 0;
@@ -488,17 +493,17 @@ public final class NetworkCoordinates {
         }
 
         private int xAfter(int a, int b, int step, int d) {
-            long change = d == 0 ? step : quotient((long) step * (xs[a] - xs[b]), d);
+            long change = d == 0 ? step : share(step, xs[a] - xs[b], d);
             return limited(xs[a] + change, -FARTHEST, FARTHEST);
         }
 
         private int yAfter(int a, int b, int step, int d) {
-            long change = quotient((long) step * (ys[a] - ys[b]), d);
+            long change = share(step, ys[a] - ys[b], d);
             return limited(ys[a] + change, -FARTHEST, FARTHEST);
         }
 
         private int heightAfter(int a, int b, int step, int d) {
-            long change = quotient((long) step * (heights[a] + heights[b]), d);
+            long change = share(step, heights[a] + heights[b], d);
             return limited(heights[a] + change, 0, HIGHEST);
         }
 
