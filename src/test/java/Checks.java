@@ -15,6 +15,10 @@ final class Checks {
         due(what + " (1: holds)", 1, holds ? 1 : 0);
     }
 
+    int made() {
+        return made;
+    }
+
     int wrong() {
         return wrong;
     }
