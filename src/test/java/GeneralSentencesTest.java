@@ -136,6 +136,8 @@ public final class GeneralSentencesTest {
         }
         checks.due("nothing is changed " + before.difference(net), 0,
                 before.difference(net).length());
+        checks.due("the gains are unchanged", 3000400, net.setGains(1, 1));
+        checks.due("the maximum step is unchanged", 70, net.setMaxStep(1));
         net.restore(1);
         checks.due("the slot is unchanged " + saved.difference(net), 0,
                 saved.difference(net).length());
@@ -257,7 +259,8 @@ public final class GeneralSentencesTest {
     }
 
     @Sentence(in = "MEASUREMENTS",
-            words = "When node a measures node b, the sample is the rtt of the pair plus the lie of b")
+            words = "When node a measures node b, the sample is the rtt of the pair plus the lie "
+                    + "of b")
     static void sampleIsTheRttPlusTheLie(Checks checks) {
         NetworkCoordinates net = Nets.apart(0, 20000);
         checks.due("measure(0, 1) without a lie", 20000, net.measure(0, 1));

@@ -126,6 +126,11 @@ public final class MeasuringSentencesTest {
         net.setRtt(0, 1, 1100);
         checks.due("move(0, 1), sure", 0, net.move(0, 1));
         checks.due("move(1, 0), unsure", 999, net.move(1, 0));
+        // 0 stands at its limit, and 1 has room.
+        net = Nets.two(100000, 0, 0, 0, 800);
+        net.place(1, 99990, 0, 0);
+        checks.due("move(0, 1) outwards", 0, net.move(0, 1));
+        checks.due("move(1, 0) inwards", 98, net.move(1, 0));
     }
 
     @Sentence(in = "Promise 26", words = "without changing anything")

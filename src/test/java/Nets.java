@@ -42,7 +42,7 @@ final class Nets {
         return net;
     }
 
-    /** Nothing is as it was at first: ten nodes, seven rounds, gains 300 and 400, maximum step 70. */
+    /** Nothing is as at first: ten nodes, seven rounds, gains 300 and 400, maximum step 70. */
     static NetworkCoordinates changedEverywhere() {
         NetworkCoordinates net = of(10);
         for (int a = 0; a < 10; a++) {

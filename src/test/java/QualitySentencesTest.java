@@ -121,7 +121,8 @@ public final class QualitySentencesTest {
         net.place(1, -100000, -100000, 100000);
         checks.due("relativeError(0, 1), the greatest", 482841000, net.relativeError(0, 1));
         checks.due("relativeError(0, 1) of 0", 0, Nets.apart(77, 77).relativeError(0, 1));
-        checks.due("relativeError(0, 1), 1 of 20000", 0, Nets.apart(19999, 20000).relativeError(0, 1));
+        checks.due("relativeError(0, 1), 1 of 20000", 0,
+                Nets.apart(19999, 20000).relativeError(0, 1));
         checks.due("relativeError(0, 1), 20 of 20000", 1,
                 Nets.apart(19980, 20000).relativeError(0, 1));
     }
@@ -160,6 +161,8 @@ public final class QualitySentencesTest {
         ranked(checks, net, 0, 2, 3, 1);
         // From 3 it is 41 to 0, 81 to 1 and 65 to 2.
         ranked(checks, net, 3, 0, 2, 1);
+        // From 1 it is 60 to 0, 91 to 2 and 81 to 3.
+        ranked(checks, net, 1, 0, 3, 2);
     }
 
     @Sentence(in = "Promise 20", words = "`rank`: 0 for the nearest of all other nodes, 1 for the "

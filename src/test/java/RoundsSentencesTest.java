@@ -48,7 +48,7 @@ public final class RoundsSentencesTest {
         }
     }
 
-    /** 0 measures 1 at its own place, then 1 measures 2, from which 0 has gone; then 2 measures 0. */
+    /** 0 measures 1 and 1 measures 2, each at its own place; 2 measures 0, which has gone away. */
     private static void inAscendingOrder(Checks checks) {
         NetworkCoordinates net = Nets.allKnown(3, 800);
         checks.due("run(1)", 3, net.run(1));
@@ -64,7 +64,7 @@ public final class RoundsSentencesTest {
         checks.due("x(0)", 37, net.x(0));
         // At one place still, node 1 would go to 37 too.
         checks.due("x(1)", -32, net.x(1));
-        // 0 measures 1 exactly and is surer then: its error estimate is 875 and the weight of 1 533.
+        // 0 measures 1 exactly and is surer then, which makes the weight of 1 533.
         net = Nets.apart(100, 100);
         net.run(1);
         checks.due("error(0)", 875, net.error(0));
@@ -85,6 +85,9 @@ public final class RoundsSentencesTest {
         net.run(2);
         checks.due("roundCounter() after two, of which one had none", 104, net.roundCounter());
         checks.due("roundCounter() asked again", 104, net.roundCounter());
+        net = Nets.allKnown(5, 9);
+        net.run(3);
+        checks.due("roundCounter() after three, each with five", 3, net.roundCounter());
     }
 
     @Sentence(in = "QUALITY", words = "The relative error of a pair with known rtt is 1000 * "

@@ -12,8 +12,9 @@ final class Sentences {
 
     /** All classes that hold such tests. */
     static List<Class<?>> classes() {
-        return List.of(GeneralSentencesTest.class, UpdateSentencesTest.class,
-                RoundsSentencesTest.class, SettingSentencesTest.class, ReadingSentencesTest.class,
+        return List.of(ExamplesTest.class, GeneralSentencesTest.class,
+                UpdateSentencesTest.class, RoundsSentencesTest.class,
+                SettingSentencesTest.class, ReadingSentencesTest.class,
                 MeasuringSentencesTest.class, QualitySentencesTest.class,
                 TriangleSentencesTest.class, SlotSentencesTest.class);
     }

@@ -181,8 +181,10 @@ public final class SlotSentencesTest {
     @Sentence(in = "Promise 28", words = "Returns 1")
     static void p28Returns1(Checks checks) {
         NetworkCoordinates net = Nets.changedEverywhere();
+        net.save(0);
         net.save(1);
         for (int i = 0; i < 100; i++) {
+            checks.due("restore(0), time " + i, 1, net.restore(0));
             checks.due("restore(1), time " + i, 1, net.restore(1));
         }
         checks.due("restore(1) and reset", 10, net.reset(2));

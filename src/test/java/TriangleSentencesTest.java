@@ -43,13 +43,13 @@ public final class TriangleSentencesTest {
         net.setRtt(4, 5, 20000);
         checks.due("violations() with 4, 5 too", 16, net.violations());
         net.setRtt(9, 8, 201);
-        // Each of the seven others and 8, 9; with 0 there, 201, 201 and 100 are not violated.
+        // 8 and 9 with each of 1 to 7; but 0, 8, 9 with 201, 201 and 100 isn't violated any more.
         checks.due("violations() with 8, 9 too", 22, net.violations());
         checks.due("violations() of all of ten", 120, allViolated().violations());
         checks.due("violations() of one", 1, triangle(Nets.of(3), 0, 1, 2, 1, 5, 3).violations());
     }
 
-    /** In a, b, c the rtts of a are equal, and that of b and c is greater than both by 1 or more. */
+    /** In a, b, c the rtts of a are equal, and that of b and c is greater than both together. */
     private static NetworkCoordinates allViolated() {
         NetworkCoordinates net = Nets.of(10);
         for (int a = 0; a < 10; a++) {
@@ -72,6 +72,11 @@ public final class TriangleSentencesTest {
         checks.due("worstExcess() of 5 and 6", 6, net.worstExcess());
         triangle(net, 3, 4, 5, 1, 1, 20000);
         checks.due("worstExcess(), the greatest", 19998, net.worstExcess());
+        net.setRtt(7, 9, 28);
+        checks.due("worstExcess(), the greatest between both others", 19998, net.worstExcess());
+        net.setRtt(3, 4, 0);
+        net.setRtt(0, 2, 700);
+        checks.due("worstExcess(), the greatest first", 680, net.worstExcess());
     }
 
     @Sentence(in = "Promise 24", words = "or NONE if no triangle is violated")

@@ -14,7 +14,8 @@ public final class UpdateSentencesTest {
         return net.error(0);
     }
 
-    private static NetworkCoordinates withGains(NetworkCoordinates net, int errorGain, int moveGain) {
+    private static NetworkCoordinates withGains(NetworkCoordinates net, int errorGain,
+            int moveGain) {
         net.setGains(errorGain, moveGain);
         return net;
     }
@@ -115,6 +116,12 @@ public final class UpdateSentencesTest {
         net.measure(0, 1);
         net.setRtt(0, 1, 1);
         checks.due("299000", 666, errorAfter(net));
+        // ea is 500 and eb 334: ve is 599, the new error estimate 799.5, and 1001 would make 800.
+        net = withGains(Nets.apart(300, 300), 1000, 1);
+        net.measure(0, 1);
+        net.measure(1, 0);
+        net.setRtt(0, 1, 100);
+        checks.due("2000, not even 1001", 799, errorAfter(net));
     }
 
     @Sentence(in = "UPDATE",
@@ -134,10 +141,12 @@ public final class UpdateSentencesTest {
     @Sentence(in = "UPDATE", words = "The new error estimate is (es * ve + ea * (1000 - ve)) / "
             + "1000, but at least 1")
     static void errorEstimateIsAtLeast1(Checks checks) {
-        // es 500, ve 125, ea 1000.
-        checks.due("between both", 937, errorAfter(Nets.apart(50, 100)));
+        // es 500, ve 125, ea 1000; then es 440, ve 120, ea 937, which makes 52.8 and 824.56.
+        NetworkCoordinates net = Nets.apart(50, 100);
+        checks.due("between both", 937, errorAfter(net));
+        checks.due("between both, once more", 877, errorAfter(net));
         // Two nodes that know it all come down to 1 and stay there.
-        NetworkCoordinates net = Nets.sure();
+        net = Nets.sure();
         checks.due("error(0)", 1, net.error(0));
         checks.due("error(1)", 1, net.error(1));
         checks.due("error(0), measured once more", 1, errorAfter(net));
